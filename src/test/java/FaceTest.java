@@ -96,12 +96,13 @@ public final class FaceTest {
     private static void words() throws IOException {
         String text = withoutComments();
         String[] refused = {"throw", "try", "catch", "synchronized", "assert", "import", "package",
-            "protected", "Exact", "System.nanoTime", "System.currentTimeMillis", "Random", "->", "::"};
+            "protected", "System.nanoTime", "System.currentTimeMillis", "Random", "->", "::"};
         for (String word : refused) {
             String edge = Character.isLetter(word.charAt(0)) ? "\\b" : "";
             Matcher matcher = Pattern.compile(edge + Pattern.quote(word) + edge).matcher(text);
             yes("no " + word + " in the class", !matcher.find());
         }
+        yes("no function whose name ends in Exact", !Pattern.compile("Exact\\b").matcher(text).find());
         Matcher made = Pattern.compile("\\bnew\\b").matcher(text);
         while (made.find()) {
             yes("what is made is made with the object", text.lastIndexOf('{', made.start())

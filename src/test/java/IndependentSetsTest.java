@@ -9,6 +9,7 @@ public final class IndependentSetsTest {
         setErrorsInTheirOrder();
         greatestSetOfTrees();
         greatestSetOfCycles();
+        greatestSetBesideALoneNode();
         greatestSetOfCyclesWithTrees();
         greatestSetErrors();
         due.end();
@@ -68,6 +69,10 @@ public final class IndependentSetsTest {
         due.is("greatest of a lone node", Due.nodes(4).greatestIndependentSet(0), 1);
         due.is("greatest of a path of two", Due.path(1, 2).greatestIndependentSet(1), 1);
         due.is("greatest of a path of five", Due.path(1, 2, 3, 4, 5).greatestIndependentSet(2), 3);
+        ColourReduction middleFirst = Due.nodes(1, 2, 3);
+        middleFirst.setParent(1, 0);
+        middleFirst.setParent(2, 0);
+        due.is("greatest of a path whose middle is node 0", middleFirst.greatestIndependentSet(0), 2);
         ColourReduction star = Due.numbered(24);
         for (int i = 0; i < 23; i++) {
             star.setParent(i, 23);
@@ -91,6 +96,15 @@ public final class IndependentSetsTest {
             }
             due.is("greatest of a cycle of " + length, x.greatestIndependentSet(length - 1), length / 2);
         }
+    }
+
+    private static void greatestSetBesideALoneNode() {
+        ColourReduction x = Due.numbered(6);
+        for (int i = 1; i < 6; i++) {
+            x.setParent(i, i % 5 + 1);
+        }
+        due.is("greatest of a cycle beside a lone node", x.greatestIndependentSet(3), 2);
+        due.is("greatest of the lone node", x.greatestIndependentSet(0), 1);
     }
 
     private static void greatestSetOfCyclesWithTrees() {

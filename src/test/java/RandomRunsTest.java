@@ -3,6 +3,9 @@ public final class RandomRunsTest {
     private static final int RUNS = 400;
     private static final int CALLS = 512;
 
+    private static final int[] EXTREMES = {
+        Integer.MIN_VALUE, Integer.MAX_VALUE, -65536, -7, -1, 23, 24, 25, 65535, 65536};
+
     private static final Due due = new Due();
     private static long seed = 20261118;
 
@@ -50,11 +53,15 @@ public final class RandomRunsTest {
         }
 
         private int node() {
-            return below(20) == 0 ? below(30) - 3 : below(nodes);
+            return below(20) == 0 ? extreme() : below(nodes);
         }
 
         private int colour() {
-            return below(20) == 0 ? below(2) * 65537 - 1 : below(colours);
+            return below(20) == 0 ? extreme() : below(colours);
+        }
+
+        private int extreme() {
+            return EXTREMES[below(EXTREMES.length)];
         }
 
         private void addNode(int identifier) {
@@ -92,7 +99,7 @@ public final class RandomRunsTest {
 
         private void ask() {
             int node = node();
-            int ago = below(20) - 1;
+            int ago = below(20) == 0 ? extreme() : below(20) - 1;
             switch (below(16)) {
                 case 0 -> check("parent(" + node + ")", x.parent(node), model.parent(node));
                 case 1 -> check("degree(" + node + ")", x.degree(node), model.degree(node));

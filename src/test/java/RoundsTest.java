@@ -14,8 +14,10 @@ public final class RoundsTest {
         reduceToThreeNeedsReductions();
         reduceToThreeErrors();
         roundsWithoutNodes();
+        roundsOfAFullGraph();
         pastColour();
         refusedEliminationKeepsTheWholePast();
+        farMoreCallsThanPromised();
         due.end();
     }
 
@@ -144,22 +146,16 @@ public final class RoundsTest {
     private static void reduceToThreeNeedsReductions() {
         ColourReduction one = Due.path(5, 6);
         due.is("reduceToThree() from 6", one.reduceToThree(), 7);
-        due.is("reduceToThree from 6: greatestColour()", one.greatestColour() <= 2 ? 1 : 0, 1);
-        // Down from 16 bits: the colours differ first in bit 15, then 3, then 2, then 2.
-        ColourReduction many = Due.cycle(0, 32768, 16384, 49152, 8192, 24576, 1, 2);
-        int reductions = reductionsOf(Due.cycle(0, 32768, 16384, 49152, 8192, 24576, 1, 2));
-        due.is("reduceToThree() from 16 bits", many.reduceToThree(), reductions + 6);
-        due.is("reduceToThree from 16 bits: conflictCount()", many.conflictCount(), 0);
-        due.is("reduceToThree from 16 bits: colours above 2", many.greatestColour() > 2 ? 1 : 0, 0);
-    }
-
-    private static int reductionsOf(ColourReduction x) {
-        int reductions = 0;
-        while (x.greatestColour() > 5) {
-            x.reduce();
-            reductions++;
+        due.colours("reduceToThree from 6", one, 0, 1);
+        ColourReduction four = Due.path(51712, 59008, 48128, 35328, 29094, 12288, 32768);
+        due.is("reduceToThree() with four reductions", four.reduceToThree(), 10);
+        due.is("reduceToThree with four: conflictCount()", four.conflictCount(), 0);
+        due.is("reduceToThree with four: colours above 2", four.greatestColour() > 2 ? 1 : 0, 0);
+        int[] reductions = {12288, 2, 0, 6, 3};
+        for (int i = 0; i < reductions.length; i++) {
+            due.is("reduceToThree with four: pastColour(5, " + (10 - i) + ")",
+                    four.pastColour(5, 10 - i), reductions[i]);
         }
-        return reductions;
     }
 
     private static void reduceToThreeErrors() {
@@ -185,6 +181,35 @@ public final class RoundsTest {
         due.is("a first node: roundCount()", x.roundCount(), 0);
         due.is("a first node: pastColour(0, 1)", x.pastColour(0, 1), -7);
         due.is("a first node: pastColour(0, 0)", x.pastColour(0, 0), 4);
+    }
+
+    private static void roundsOfAFullGraph() {
+        ColourReduction x = Due.numbered(24);
+        for (int i = 1; i < 24; i++) {
+            x.setParent(i, i - 1);
+        }
+        due.is("full: shift()", x.shift(), 24);
+        due.is("full: colour(23) after shift", x.colour(23), 22);
+        due.is("full: eliminate(22)", x.eliminate(22), 1);
+        due.is("full: colour(23) after eliminate", x.colour(23), 0);
+        due.is("full: reduceToThree()", x.reduceToThree(), 7);
+        due.is("full: conflictCount()", x.conflictCount(), 0);
+        due.is("full: pastColour(23, 9)", x.pastColour(23, 9), 23);
+        x.resetColours();
+        due.is("full: reduce()", x.reduce(), 1);
+        due.is("full: resetColours()", x.resetColours(), 22);
+        due.is("full: colour(23)", x.colour(23), 23);
+    }
+
+    private static void farMoreCallsThanPromised() {
+        // What these answer is free; that nothing is thrown is not.
+        ColourReduction x = Due.cycle(100, 101, 102);
+        int refused = 0;
+        for (int call = 0; call < 100000; call++) {
+            x.shift();
+            refused += x.reduceToThree() < 0 || x.pastColour(2, call % 17) == -2 ? 1 : 0;
+        }
+        due.is("calls refused after the 512th", refused, 0);
     }
 
     private static void pastColour() {
