@@ -67,6 +67,17 @@ public final class ColoursTest {
         due.is("conflictCount() with the child", x.conflictCount(), 1);
     }
 
+    @Says("Sets the colour of a node.")
+    static void promise11_otherNodesKeepTheirColours(Due due) {
+        for (int node = 0; node < 24; node++) {
+            ColourReduction x = Made.cycle(Made.from(100, 24));
+            int[] want = Made.from(100, 24);
+            want[node] = 65535;
+            due.is("setColour(" + node + ", 65535)", x.setColour(node, 65535), 100 + node);
+            due.colours("setColour(" + node + ", 65535)", x, want);
+        }
+    }
+
     @Says("starts a new count, even if it changes nothing")
     static void promise11_startsANewCount(Due due) {
         due.startsACount(() -> Made.turned(5), "setColour(3, 7)", x -> x.setColour(3, 7), 103);

@@ -457,6 +457,26 @@ public final class RoundsTest {
         due.is("no free colour: roundCount()", stuck.roundCount(), 20);
     }
 
+    @Says("A successful call of addNode, setParent, removeParent, setColour, resetColours or recolour"
+            + " starts a new count")
+    static void promise22_otherCallsStartNoCount(Due due) {
+        ColourReduction x = Made.turned(23);
+        int[] answers = {
+            x.parent(0), x.degree(0), x.depth(0), x.cycleLength(0), x.partCount(), x.colour(0),
+            x.colourCount(), x.greatestColour(), x.conflictCount(), x.differingBit(0), x.roundCount(),
+            x.pastColour(0, 1), x.inIndependentSet(0), x.independentSetSize(), x.greatestIndependentSet(0)};
+        due.is("questions", answers.length, 15);
+        due.is("roundCount() after questions", x.roundCount(), 20);
+        for (int ago = 0; ago <= 16; ago++) {
+            due.is("pastColour(0, " + ago + ")", x.pastColour(0, ago), colourOfNode0After(20 - ago));
+        }
+        x.reduce();
+        x.shift();
+        x.eliminate(5);
+        due.is("roundCount() after three more rounds", x.roundCount(), 23);
+        due.is("pastColour(0, 3)", x.pastColour(0, 3), colourOfNode0After(20));
+    }
+
     @Says("An object is used for at most 512 calls after it has been made")
     static void promise22_asManyRoundsAsThereCanBe(Due due) {
         ColourReduction shifts = new ColourReduction();
